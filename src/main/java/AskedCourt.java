@@ -1,6 +1,6 @@
 import java.util.NoSuchElementException;
 
-/** A court in which only questions are answered. The document's capitals (TEXT, PERSON, ...) are used in the comments. */
+/** A court in which only questions are answered. Words in capitals are the document's terms. */
 public final class AskedCourt {
     public static final int NONE = -1;
 
@@ -501,6 +501,7 @@ public final class AskedCourt {
             return NONE;
         }
         rules.begin(court);
+        search.aim(person, fact, others);
         return search.findWay(rules, now, n) ? search.length : BY_NONE;
     }
 
@@ -509,6 +510,7 @@ public final class AskedCourt {
             return NONE;
         }
         rules.begin(court);
+        search.aim(person, fact, others);
         if (!search.findWay(rules, now, n) || k >= search.length) {
             return BY_NONE;
         }
@@ -516,14 +518,8 @@ public final class AskedCourt {
     }
 
     private boolean isWay(int person, int fact, int others, int n) {
-        if (!areTold(person, fact) || n < 1 || n > 2 || others < 0 || others >= 1 << court.persons.size) {
-            return false;
-        }
-        if ((others >> person & 1) != 0) {
-            return false;
-        }
-        search.aim(person, fact, others);
-        return true;
+        return areTold(person, fact) && n >= 1 && n <= 2 && others >= 0 && others < 1 << court.persons.size
+                && (others >> person & 1) == 0;
     }
 
     public int best(int person, int n, int what) {
@@ -1015,7 +1011,7 @@ public final class AskedCourt {
         }
     }
 
-    /** Reads the LINES of a TEXT; its methods answer the FAULT (0 without), whose place is that of the TOKEN at hand. */
+    /** Reads the LINES of a TEXT; its methods answer the FAULT (0 without), which is at the TOKEN at hand. */
     private static final class TextReader {
         private static final int CANT_STAND = 1;
         private static final int TOO_MUCH = 2;
@@ -1258,11 +1254,12 @@ public final class AskedCourt {
 
         private int takeSome(int[] facts, int question) {
             int wrong = 0;
-            if (tokens.kind == Tokens.NO_FACT) {
-                taken = NONE;
+            taken = NONE;
+            if (tokens.kind != Tokens.NO_FACT) {
+                wrong = findTold(court.facts);
+            }
+            if (wrong == 0) {
                 tokens.move();
-            } else {
-                wrong = takeTold(court.facts);
             }
             facts[question] = taken;
             return wrong;
@@ -1311,7 +1308,7 @@ public final class AskedCourt {
             open = 0;
             wantsOperand = true;
             for (int i = 0; i <= MOST_TAPE; i++) {
-                int wrong = wantsOperand ? takeOperand() : takeOperator();
+                int wrong = wantsOperand ? takeOperand() : tokens.kind == Tokens.CLOSE ? takeClose() : takeOperator();
                 if (wrong != GOES_ON) {
                     return wrong;
                 }
@@ -1350,14 +1347,11 @@ public final class AskedCourt {
 
         private int takeOperator() {
             int kind = tokens.kind;
-            if (kind == Tokens.CLOSE) {
-                return takeClose();
-            }
-            int level = levelOf(kind);
             if (kind == Tokens.SEMICOLON && open == 0) {
                 joinAbove(0);
                 return 0;
             }
+            int level = levelOf(kind);
             if (level == 0 || level == NOT_LEVEL) {
                 return TextReader.CANT_STAND;
             }
