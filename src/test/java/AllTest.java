@@ -34,6 +34,8 @@ public final class AllTest {
         AskedCourt slow = Checks.court("fact a;fact b;fact c;person x 9 0 0;person y 9 0 0;knows x a;knows x b;knows x c;"
                 + "ask p plain b none c;ask q plain a none b;ask r plain none none a;");
         CHECKS.due("three rounds", slow.all(1), 7);
+        AskedCourt self = Checks.court("fact f;fact g;person a 9 0 0;person b 9 0 0;knows a f;knows a g;ask p plain g none f;law hear 0;");
+        CHECKS.due("nobody asks oneself", self.all(1), 0);
         AskedCourt low = Checks.court("fact f;person a 0 0 0;person b 4 0 0;knows b f;ask p plain none none f;");
         CHECKS.due("40 isn't let slip as it goes", low.all(0), 0);
         AskedCourt high = Checks.court("fact f;person a 0 0 0;person b 5 0 0;knows b f;ask p plain none none f;");
@@ -105,6 +107,9 @@ public final class AllTest {
         CHECKS.due("best of b", x.bestRoom(1), 0);
         CHECKS.due("c hasn't gone", x.person(2, 2), 1);
         CHECKS.due("several: the first", Checks.court("person a 0 0 3;").bestRoom(0), 0);
+        x.send(2, 3);
+        CHECKS.due("a with c in ROOM 3", x.inRoom(0, 3), 4);
+        CHECKS.due("best of a is ROOM 3", x.bestRoom(0), 3);
     }
 
     private static void tried() {

@@ -100,6 +100,16 @@ public final class AskingTest {
         CHECKS.due("<=", slipLaw("2<=2"), 1);
         CHECKS.due("<>", slipLaw("2<>2"), 0);
         CHECKS.due(">=", slipLaw("1>=2"), 0);
+        CHECKS.due(">= of the same", slipLaw("2>=2"), 1);
+        CHECKS.due("0 or 5", slipLaw("0 or 5"), 1);
+        CHECKS.due("5 or 0", slipLaw("5 or 0"), 1);
+        CHECKS.due("0 or 0", slipLaw("0 or 0"), 0);
+        CHECKS.due("0 and 5", slipLaw("0 and 5"), 0);
+        CHECKS.due("5 and 0", slipLaw("5 and 0"), 0);
+        CHECKS.due("not 5", slipLaw("not 5"), 0);
+        CHECKS.due("not 0", slipLaw("not 0"), 1);
+        CHECKS.due("behind others", slipLaw("3 and not 5"), 0);
+        CHECKS.due("behind others, of 0", slipLaw("3 and not (5-5)"), 1);
         CHECKS.due(">", slipLaw("2>2"), 0);
         CHECKS.due("=", slipLaw("2=2"), 1);
         AskedCourt x = Checks.court(BASE + "law hear wit*1000+kind*100+room*10+day;law slip lost;");
@@ -209,11 +219,29 @@ public final class AskingTest {
             x.undo();
             x.undo();
         }
+        noNumberAtTheEdges("0");
+        noNumberAtTheEdges("100");
+        noNumberAtTheEdges("0-7");
+        noNumberAtTheEdges("107");
         x = Checks.court("fact f;person a 0 0 0;person b 4 0 0;knows b f;ask p plain none none f;seed 9;nine 99;law slip 1/0;");
         number = 9;
         for (int i = 0; i < 20; i++) {
             number = (number * 1103515245L + 12345L) % 2147483648L;
             CHECKS.due("with an ERROR 10 times LIPS " + i, x.ask(0, 1, 0), 40 > number / 65536 % 100 ? 1 : 0);
+        }
+    }
+
+    /** On each other DAY the law is at an edge: the numbers of the DAYS between go on as if it weren't. */
+    private static void noNumberAtTheEdges(String edge) {
+        AskedCourt x = Checks.court("fact f;person a 0 0 0;person b 5 0 0;knows b f;ask p plain none none f;seed 5;law slip (day/2*2=day)*50 + (day/2*2<>day)*("
+                + edge + ");");
+        long number = 5;
+        for (int i = 0; i < 12; i++) {
+            number = (number * 1103515245L + 12345L) % 2147483648L;
+            CHECKS.due("50 between edges of " + edge, x.ask(0, 1, 0), 50 > number / 65536 % 100 ? 1 : 0);
+            x.end();
+            CHECKS.due("at the edge " + edge, x.ask(0, 1, 0), edge.startsWith("0") ? 0 : 1);
+            x.end();
         }
     }
 

@@ -155,6 +155,13 @@ public final class SearchTest {
         CHECKS.due("several: the first", x.best(0, 1, 1), 20);
         CHECKS.due("several of two: the first", x.best(0, 2, 1), 10);
         CHECKS.due("several of two: then the first that tells", x.best(0, 2, 2), 20);
+        x = Checks.court("fact f;fact g;person a 0 0 0;person b 9 0 0;person c 9 0 0;knows c f;knows c g;ask o idle none none f;"
+                + "ask p plain none none f;ask q plain f none g;");
+        CHECKS.due("QUESTION 1 of c", x.best(0, 1, 1), 21);
+        CHECKS.due("FACTS in sum", x.best(0, 1, 0), 4);
+        CHECKS.due("two: QUESTION 1 of c", x.best(0, 2, 1), 21);
+        CHECKS.due("two: QUESTION 2 of c", x.best(0, 2, 2), 22);
+        CHECKS.due("two: FACTS in sum", x.best(0, 2, 0), 6);
     }
 
     private static void wrongDays() {
@@ -181,6 +188,11 @@ public final class SearchTest {
         CHECKS.due("another ROOM, rest", x.rest(0, 2, 0), -1);
         CHECKS.due("no such one", x.rests(0, 3), -1);
         CHECKS.due("no such one, rest", x.rest(-1, 0, 0), -1);
+        x = Checks.court("fact f;fact g;person a 9 0 0;person b 9 0 0;knows a f;knows a g;ask p plain f none none;ask q plain f none g;");
+        // whatever a asks, b learns f and may ask q then
+        CHECKS.due("a had better not ask", x.rests(0, 1), 3);
+        CHECKS.due("none, p", x.rest(0, 1, 0), 200);
+        CHECKS.due("none, none", x.rest(0, 1, 2), 202);
         x = Checks.court("person a 9 0 0;person b 9 0 0;");
         CHECKS.due("no QUESTIONS: none and none", x.rests(0, 1), 1);
         CHECKS.due("none is 0 of 0", x.rest(0, 1, 0), 0);

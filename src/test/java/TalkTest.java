@@ -121,6 +121,9 @@ public final class TalkTest {
         CHECKS.due("b let it slip: b knew it", x.knew(1), 2);
         CHECKS.due("or c knew it itself", x.knew(2), 2);
         CHECKS.due("a's knowing tells c nothing", x.knew(0), 0);
+        x = Checks.court("fact f;fact g;person a 0 0 0;person b 9 0 0;person c 0 0 0;knows b f;ask p plain none none f;talk a b p;law slip 50*heard-50;");
+        x.note(1, 2, 0, false);
+        CHECKS.due("with g b would have let slip f", x.knew(1), 5);
     }
 
     private static void chances() {
