@@ -79,6 +79,60 @@ final class Checks {
         return x;
     }
 
+    /** Numbers of which there is never a PERSON, a FACT, a QUESTION or a ROOM, the nearest ones given. */
+    static int[] beyond(int size) {
+        return new int[] {-1, size, -2, size + 1, 31, 32, 33, 64, 255, 256, Integer.MIN_VALUE, Integer.MIN_VALUE + 1,
+            Integer.MAX_VALUE};
+    }
+
+    /** What an object tells of itself without being changed: to be compared ahead of a call and behind it (some 150 calls). */
+    static String told(AskedCourt x) {
+        StringBuilder told = new StringBuilder();
+        for (int what = 0; what < 12; what++) {
+            told.append(' ').append(x.count(what));
+        }
+        for (int person = 0; person < x.count(1); person++) {
+            for (int what = 0; what < 6; what++) {
+                told.append(' ').append(x.person(person, what));
+            }
+            told.append(' ').append(x.behind(x.count(3), person)).append(' ').append(x.knew(person));
+            for (int what = 0; what < 2 && x.count(2) > 0; what++) {
+                told.append(' ').append(x.law(what, person, 0));
+            }
+        }
+        for (int question = 0; question < x.count(2); question++) {
+            for (int what = 0; what < 4; what++) {
+                told.append(' ').append(x.question(question, what));
+            }
+        }
+        return told.toString();
+    }
+
+    void dueSame(String what, String got, String want) {
+        all++;
+        if (!got.equals(want)) {
+            wrong++;
+            System.out.println(test + ": " + what + ": '" + got + "', due is '" + want + "'");
+        }
+    }
+
+    /** A text that a new object doesn't take, with its FAULT and the place of it. */
+    void dueFault(String text, int fault, int place) {
+        AskedCourt x = new AskedCourt();
+        due("'" + text + "'", tell(x, text), -1);
+        due("the FAULT of '" + text + "'", x.fault(0), fault);
+        due("the place in '" + text + "'", x.fault(1), place);
+    }
+
+    /** A text that a new object takes, with how many LINES it has. */
+    AskedCourt dueLines(String text, int lines) {
+        AskedCourt x = new AskedCourt();
+        due("'" + text + "'", tell(x, text), lines);
+        due("no FAULT of '" + text + "'", x.fault(0), 0);
+        due("no place in '" + text + "'", x.fault(1), -1);
+        return x;
+    }
+
     static int letters(String name) {
         int letters = 0;
         for (int i = 0; i < 6; i++) {
