@@ -8,6 +8,7 @@ public final class EdgesAllTest {
     public static void main(String[] args) {
         promise14();
         promise14Rounds();
+        promise14ManyRounds();
         promise14ByNumbers();
         promise14AsItGoes();
         promise14AllEight();
@@ -77,6 +78,42 @@ public final class EdgesAllTest {
         x = Checks.court("fact f;fact g;person a 0 0 0;person b 0 0 0;knows b f;knows b g;knows a f;"
                 + "ask q plain none none g;ask p double none none f;law slip 50*kind+50*(lost>1);");
         CHECKS.due("14: a round that adds but LOST adds nothing", x.all(0), 1);
+        x = Checks.court("fact f;fact g;person a 0 0 0;person b 0 0 0;knows b f;knows b g;knows a f;"
+                + "ask p double none none f;ask q plain none none g;law slip 50*kind+50*(lost>1);");
+        CHECKS.due("14: each asks each QUESTION once a round", x.all(0), 1);
+        String clock = "fact f;fact g;fact h;person a 0 0 0;person b 0 0 0;knows b f;knows b g;knows a f;"
+                + "ask q plain none none g;ask p double none none f;law slip 50*kind+50*(lost>0);";
+        x = Checks.court(clock);
+        CHECKS.due("14: g would be let slip by a second round", x.all(0), 1);
+        CHECKS.due("15: none comes", x.never(0, 1), 1);
+        CHECKS.due("16: none comes", x.away(0, 1), 0);
+        CHECKS.due("17: none comes", x.spread(1), 2);
+        CHECKS.due("18: none comes", x.hint(0, 1, 0), -2);
+        CHECKS.due("20: none comes", x.inRoom(0, 0), 3);
+        CHECKS.due("35: none comes", x.tried(4, 0), 3);
+        x = Checks.court(clock + "ask s plain h none none;");
+        CHECKS.due("18: by h, which b hears, one comes", x.hint(0, 1, 0) * 10 + x.hint(0, 1, 1), 2);
+    }
+
+    /** All LOSE four times a round by the clock (qa), and hear one FACT more for each sixteen: one PERSON a round. */
+    private static void promise14ManyRounds() {
+        StringBuilder text = new StringBuilder("fact z;");
+        for (int i = 0; i < 7; i++) {
+            text.append("fact f").append((char) ('a' + i)).append(";");
+        }
+        text.append("person a 0 0 0;person b 0 0 0;person c 0 1 0;person d 0 2 0;person e 0 3 0;"
+                + "knows a z;knows b z;knows c z;knows d z;knows e z;ask qz double none none z;");
+        for (int i = 0; i < 7; i++) {
+            char fact = (char) ('a' + i);
+            text.append("knows a f").append(fact).append(";ask q").append(fact).append(" plain f").append(fact).append(" none none;");
+        }
+        AskedCourt x = CHECKS.dueLines(text + "law slip 100;law hear lost>16*heard-16+4*wit;", 35);
+        for (int person = 0; person < 5; person++) {
+            CHECKS.due("14: twenty-eight rounds, PERSON " + person, x.all(person), 255);
+        }
+        CHECKS.due("20: twenty-eight rounds, in sum", x.inRoom(0, 0), 40);
+        CHECKS.due("16: who alone knew it at first", x.away(4, 1), 1);
+        CHECKS.due("35: nobody LOSES: nobody hears", x.tried(0, 0), 12);
     }
 
     /** "(by numbers of who asks, whom, QUESTIONS ...)" */
@@ -188,6 +225,17 @@ public final class EdgesAllTest {
         x.tell(0, 2);
         x.tell(2, 0);
         CHECKS.due("16: two of them", x.away(0, 0), 2);
+        // that c hears f makes for a second round, in which b, who has LOST, lets g slip
+        String clock = "knows b f;knows b g;knows a f;ask q plain none none g;ask p double none none f;law slip 50*kind+50*(lost>0);";
+        x = Checks.court("fact f;fact g;person c 0 0 0;person a 0 0 0;person b 0 0 0;" + clock);
+        CHECKS.due("16: c hears: a second round", x.never(1, 1), 0);
+        CHECKS.due("16: c doesn't hear: none", x.away(1, 1), 1);
+        CHECKS.due("35: c doesn't hear: none", x.tried(2, 0), 3);
+        x = Checks.court("fact f;fact g;fact h;person c 0 0 0;person a 0 0 0;person b 0 0 0;knows a h;knows b h;ask s plain h none none;" + clock);
+        x.tell(0, 0);
+        CHECKS.due("16: c hears what is supposed: a second round", x.never(1, 1), 0);
+        CHECKS.due("16: c doesn't hear what is supposed: none", x.away(1, 1), 1);
+        CHECKS.due("35: c doesn't hear what is supposed: none", x.tried(2, 0), 5);
     }
 
     /** "PERSONS (bits) who KNOW a FACT behind ALL; NONE: no such FACT." */
@@ -268,6 +316,15 @@ public final class EdgesAllTest {
         x = Checks.court(facts + "ask p plain none none fh;law slip 100*(heard=3);law hear 0;");
         x.tell(1, 0);
         CHECKS.due("18: b is told the first that b doesn't KNOW", x.hint(0, 7, 1), 1);
+        x = Checks.court("fact f;person a 0 0 0;person b 0 0 0;knows b f;ask p plain none none f;law slip 100*(heard=2);");
+        CHECKS.due("18: there is no other FACT to be told", x.hint(0, 0, 0), -2);
+        x = Checks.court("fact f;fact g;person a 0 0 0;person b 0 0 0;knows b f;knows b g;ask p plain none none f;law slip 100*(heard=3);");
+        CHECKS.due("18: b KNOWS all there are", x.hint(0, 0, 1), -2);
+        // in ALL a learns g too late: b has heard h by then, which c lets slip
+        x = Checks.court("fact f;fact g;fact h;person a 0 5 0;person b 0 0 0;person c 0 9 0;knows b f;knows c g;knows c h;ask f plain g none f;ask h plain none none h;"
+                + "law hear wit=5;law slip 100*(heard=1 or wit=9);");
+        CHECKS.due("18: a learns g and h, not f", x.all(0), 6);
+        CHECKS.due("18: not KNOWN to that one now", x.hint(0, 0, 0) * 10 + x.hint(0, 0, 1), 1);
     }
 
     /** "QUESTIONS (bits) that a PERSON can ASK nobody now; NONE: no such PERSON." */
@@ -384,6 +441,9 @@ public final class EdgesAllTest {
         CHECKS.due("35: q isn't there", x.tried(3, 1), 3);
         CHECKS.due("35: k isn't there", x.tried(3, 2), 4);
         CHECKS.due("35: all have WIT 9", x.tried(4, 0), 4);
+        x = Checks.court("fact f;person a 9 0 1;person b 9 0 2;knows a f;ask p plain f none none;ask q plain none none f;");
+        CHECKS.due("35: nobody lets slip, each in its ROOM", x.tried(0, 0), 1);
+        CHECKS.due("35: all in ROOM 0, they let slip", x.tried(1, 0), 2);
         x = Checks.court("fact f;person a 0 0 1;person b 0 4 1;person c 9 9 1;person d 3 0 2;knows a f;ask k back f none none;");
         CHECKS.due("35: c alone hears", x.inRoom(0, 1), 2);
         CHECKS.due("35: all have WIT 9: both hear", x.tried(4, 0), 3);

@@ -252,6 +252,9 @@ public final class EdgesAskingTest {
         dueValue("(4096*4096*4096)*(4096*4096*4096)", ERROR);
         dueValue("(" + edge + ")*(" + edge + ")", ERROR);
         dueValue("(0-" + edge + ")*(" + edge + ")", ERROR);
+        dueValue("(0-4096*4096*4096)*(4096*4096*4096)", ERROR);
+        dueValue("(4096*4096*4096)*(0-4096*4096*4096)", ERROR);
+        dueValue("(0-4096*4096*4096)*(0-4096*4096*4096)", ERROR);
         dueValue("(" + edge + "+1) and 0", ERROR);
         dueValue("(" + edge + "+1) > 0", ERROR);
         dueValue("1/0", ERROR);

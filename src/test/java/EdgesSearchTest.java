@@ -125,6 +125,10 @@ public final class EdgesSearchTest {
         x.send(1, 1);
         CHECKS.due("23: b is elsewhere", x.step(0, 1, 0, 2, 0), 21);
         CHECKS.due("23: b is elsewhere, behind it", x.step(0, 1, 0, 2, 1), 22);
+        x = Checks.court("fact f;fact g;fact k;person a 9 0 0;person b 0 0 0;knows a f;knows a g;knows b k;ask i idle none none none;ask p plain none none f;"
+                + "ask q double f k g;law hear 0;");
+        CHECKS.due("23: b asks a, the first", x.step(1, 1, 0, 2, 0), 101);
+        CHECKS.due("23: b asks a, the second", x.step(1, 1, 0, 2, 1), 102);
     }
 
     /** "NONE: no such ones, the PERSON among the others." */
@@ -231,6 +235,10 @@ public final class EdgesSearchTest {
         x = Checks.court("fact f;fact g;person a 0 0 0;person b 9 0 0;person c 0 9 0;knows b f;knows c g;ask p plain none none f;ask q plain g none f;"
                 + "law slip 100*(heard=1);");
         CHECKS.due("24: by q b hears g, and keeps f", x.care(1), 1);
+        x = Checks.court("fact f;person a 0 0 2;person b 9 0 2;person c 0 0 0;knows b f;ask p plain none none f;");
+        CHECKS.due("24: in ROOM 2", x.care(1), 1);
+        x.tell(0, 0);
+        CHECKS.due("24: in ROOM 2 all KNOW it", x.care(1), 0);
     }
 
     /** "what 0: FACTS in sum, 1, 2: the QUESTIONS (ten times whom and the QUESTION; -2: there are no so many)" */
@@ -305,6 +313,15 @@ public final class EdgesSearchTest {
         CHECKS.due("25: f or g of c or d: the first of c", x.best(0, 1, 1), 20);
         CHECKS.due("25: four KNOWN and three more", x.best(0, 1, 0), 7);
         CHECKS.due("25: f, then g", x.best(0, 2, 1) * 100 + x.best(0, 2, 2), 2022);
+        x = Checks.court("fact f;fact g;person a 9 0 0;person b 0 0 0;person c 9 0 0;knows a g;knows c f;ask p plain none none f;ask q plain f none g;law hear 0;");
+        CHECKS.due("25: b asks c, then a", x.best(1, 2, 1) * 100 + x.best(1, 2, 2), 2001);
+        CHECKS.due("25: all of it is KNOWN", x.best(1, 2, 0), 6);
+        x = Checks.court("fact f;fact g;person a 0 0 0;person b 0 0 0;knows a f;knows a g;ask p plain f none none;ask q plain g none none;");
+        CHECKS.due("25: the asked one hears what both suppose", x.best(0, 2, 0), 4);
+        CHECKS.due("25: p, then q", x.best(0, 2, 1) * 100 + x.best(0, 2, 2), 1011);
+        x = Checks.court("fact f;fact g;person a 9 0 0;person b 9 0 0;person c 9 0 1;knows a f;knows c g;ask p plain none none f;ask q plain none none g;law hear 0;");
+        CHECKS.due("25: neither oneself is asked nor who is elsewhere", x.best(0, 2, 0), 2);
+        CHECKS.due("25: nor by one", x.best(0, 1, 0), 2);
     }
 
     /** "How many RESTS a DUEL has; NONE: no such ones, alike, not in one ROOM." */
@@ -356,6 +373,18 @@ public final class EdgesSearchTest {
             CHECKS.due("27: REST " + k, x.rest(0, 1, k), due[k]);
         }
         CHECKS.due("27: no more of them", x.rest(0, 1, due.length), -2);
+        AskedCourt y = Checks.court("fact f;fact g;fact x;fact y;person c 0 0 3;person b 9 0 1;person a 9 0 1;knows a f;knows a y;knows b g;knows b x;"
+                + "ask p plain f none x;ask q double f g y;");
+        CHECKS.due("26: of the last ones, in ROOM 1", y.rests(2, 1), due.length);
+        for (int k = 0; k < due.length; k++) {
+            CHECKS.due("27: REST " + k + " of the last ones", y.rest(2, 1, k), due[k]);
+        }
+        // b first: a alone can ask, p, and b LOSES whatever b does
+        int[] bFirst = {0, 100, 200};
+        CHECKS.due("26: b first", y.rests(1, 2), bFirst.length);
+        for (int k = 0; k < bFirst.length; k++) {
+            CHECKS.due("27: REST " + k + ", b first", y.rest(1, 2, k), bFirst[k]);
+        }
         x.ask(0, 1, 0);
         x.ask(1, 0, 1);
         CHECKS.due("26: what one KNEW and LOST ahead of it doesn't count", x.person(0, 4) + x.person(1, 4) >= 1, true);

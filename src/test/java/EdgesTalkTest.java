@@ -67,6 +67,9 @@ public final class EdgesTalkTest {
         x = Checks.court("fact f;person a 0 0 0;person b 9 0 0;knows b f;ask p plain none none f;talk a b p;");
         CHECKS.due("29: one of one", x.behind(1, 0), 1);
         CHECKS.due("29: two of one", x.behind(2, 0), -1);
+        x = Checks.court("fact f;fact g;person a 0 0 0;person b 9 0 0;knows b f;knows b g;ask q plain f none g;ask p plain none none f;talk a b q;talk a b p;law hear 0;");
+        CHECKS.due("29: each once: q can't be asked yet", x.behind(2, 0), 1);
+        CHECKS.due("28: each once", x.slipped(1), 1);
         x = Checks.court("fact f;person a 0 0 0;knows a f;");
         CHECKS.due("29: no TALK", x.behind(0, 0), 1);
         CHECKS.due("29: one of no TALK", x.behind(1, 0), -1);
@@ -325,6 +328,10 @@ public final class EdgesTalkTest {
         CHECKS.due("33: c", x.knew(2), 1 + 4);
         x.note(0, 2, 0, false);
         CHECKS.due("33: c, none more", x.knew(2), 4);
+        x = Checks.court("fact f;fact g;person a 0 0 0;person b 0 0 0;knows b f;knows b g;ask p double none none f;ask q plain none none g;talk a b p;talk a b q;"
+                + "law slip 50*kind+50*(lost>1);");
+        x.note(2, 0, 1, false);
+        CHECKS.due("33: each of the TALK is asked once", x.knew(0), 5);
     }
 
     private static long next(long number) {

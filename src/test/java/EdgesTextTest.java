@@ -135,7 +135,11 @@ public final class EdgesTextTest {
         CHECKS.due("3: no bytes at all", x.text(0), 0);
         CHECKS.due("3: the TAPE is empty by text(0), too", x.text(1), -2);
         Checks.feed(x, "fact f;nine 123;");
-        CHECKS.due("3: a number cut off is another one", x.text(7) == 1 && x.count(0) == 1, true);
+        CHECKS.due("3: what stands behind n isn't read", x.text(7) == 1 && x.count(0) == 1, true);
+        Checks.feed(x, "nine 100;");
+        CHECKS.due("3: a number cut off", x.text(7), -1);
+        CHECKS.due("3: it is another one, more must come", x.fault(0), 1);
+        CHECKS.due("3: at the length, in a number", x.fault(1), 7);
         Checks.feed(x, "law hear 1 <= 2;");
         CHECKS.due("3: a sign cut off", x.text(12), -1);
         CHECKS.due("3: more must come behind <", x.fault(1), 12);
@@ -241,6 +245,9 @@ public final class EdgesTextTest {
             for (int i = 0; i < 2; i++) {
                 CHECKS.due("3: a FAULT", Checks.tell(x, wrong), -1);
             }
+            Checks.tell(x, "person a 0 0 0;ask p idle none none none;law hear 2+3*4;");
+            CHECKS.due("3: right behind a FAULT", x.law(1, 0, 0), 14);
+            CHECKS.due("3: a FAULT", Checks.tell(x, wrong), -1);
             CHECKS.due("3: eight may be open, 64 KNOTS may be", Checks.tell(x, "law hear ((((((((2+3))))))))*4" + "+1".repeat(29) + ";"), 1);
             CHECKS.due("3: 63 KNOTS", x.count(4), 63);
             CHECKS.due("3: only that law", Checks.tell(x, "person a 0 0 0;ask p idle none none none;law hear 2+3;"), 3);
@@ -332,6 +339,20 @@ public final class EdgesTextTest {
             }
             CHECKS.dueLines("fact " + word.substring(0, word.length() - 1) + "q;", 1);
         }
+        for (int word = 0; word < LANGUAGE.length; word++) {
+            if (word < 8 || word > 11) {
+                CHECKS.dueFault("ask p " + LANGUAGE[word] + " none none none;", 1, 6);
+            }
+            if (word != 13 && word != 14) {
+                CHECKS.dueFault("law " + LANGUAGE[word] + " 1;", 1, 4);
+            }
+            if (word < 17) {
+                CHECKS.dueFault("law slip " + LANGUAGE[word] + " 1;", 1, 9);
+            }
+            if (word > 7) {
+                CHECKS.dueFault(LANGUAGE[word] + " f;", 1, 0);
+            }
+        }
         for (String word : new String[] {"seeds", "nin", "lawn", "fac", "lips", "plain", "none", "day"}) {
             CHECKS.dueFault(word + " 1;", 1, 0);
         }
@@ -412,6 +433,10 @@ public final class EdgesTextTest {
                     CHECKS.dueFault(ahead + line.substring(0, end), 1, ahead.length() + end);
                     CHECKS.dueFault(ahead + line.substring(0, end) + " \n ", 1, ahead.length() + end + 3);
                     CHECKS.dueFault(ahead + line.substring(0, end) + "  @", 1, ahead.length() + end + 2);
+                    // of a law some of these would be whole
+                    if (line.charAt(end) != ';' && !line.startsWith("law")) {
+                        CHECKS.dueFault(ahead + line.substring(0, end) + ";", 1, ahead.length() + end);
+                    }
                 }
             }
             CHECKS.dueFault(ahead + line + ";", 1, ahead.length() + line.length());
@@ -597,5 +622,9 @@ public final class EdgesTextTest {
         CHECKS.dueFault("law slip none;", 1, 9);
         CHECKS.dueFault("law lips 1;", 1, 4);
         CHECKS.dueFault("law 1;", 1, 4);
+        CHECKS.dueFault("law;", 1, 3);
+        CHECKS.dueFault("law hear;", 1, 8);
+        CHECKS.dueFault("law hear 1 and;", 1, 14);
+        CHECKS.dueFault("law hear 1 <;", 1, 12);
     }
 }
