@@ -162,6 +162,11 @@ public final class EdgesAskingTest {
         for (int none : Checks.beyond(4)) {
             CHECKS.due("9: no such QUESTION " + none, x.law(0, 0, none), ERROR);
         }
+        x = Checks.court(BASE + "law slip 7;law hear 8;");
+        CHECKS.due("9: both laws", x.law(0, 0, 0) * 10 + x.law(1, 0, 0), 78);
+        for (int none : Checks.beyond(2)) {
+            CHECKS.due("9: no such law " + none + " but both", x.law(none, 0, 0), ERROR);
+        }
         x = Checks.court(BASE + "law hear 0;");
         CHECKS.due("9: no law of slip", x.law(0, 0, 0), ERROR);
         CHECKS.due("9: the law of hear", x.law(1, 0, 0), 0);

@@ -239,6 +239,8 @@ public final class EdgesSearchTest {
         CHECKS.due("24: in ROOM 2", x.care(1), 1);
         x.tell(0, 0);
         CHECKS.due("24: in ROOM 2 all KNOW it", x.care(1), 0);
+        x = Checks.court("fact f;fact g;fact h;person a 0 0 0;person b 9 0 0;knows a f;knows b f;knows b h;ask p plain none none f;ask q plain none none g;ask r plain none none h;");
+        CHECKS.due("24: of f, g, h the last one alone is news that b KNOWS", x.care(1), 4);
     }
 
     /** "what 0: FACTS in sum, 1, 2: the QUESTIONS (ten times whom and the QUESTION; -2: there are no so many)" */
@@ -320,6 +322,8 @@ public final class EdgesSearchTest {
         CHECKS.due("25: the asked one hears what both suppose", x.best(0, 2, 0), 4);
         CHECKS.due("25: p, then q", x.best(0, 2, 1) * 100 + x.best(0, 2, 2), 1011);
         x = Checks.court("fact f;fact g;person a 9 0 0;person b 9 0 0;person c 9 0 1;knows a f;knows c g;ask p plain none none f;ask q plain none none g;law hear 0;");
+        CHECKS.due("25: by the first QUESTION of c g", Checks.court("fact f;fact g;person a 0 0 0;person b 9 0 0;person c 9 0 0;knows c g;knows c f;ask n idle none none none;"
+                + "ask p plain g none f;ask q plain none none g;law hear 0;").best(0, 2, 1), 22);
         CHECKS.due("25: neither oneself is asked nor who is elsewhere", x.best(0, 2, 0), 2);
         CHECKS.due("25: nor by one", x.best(0, 1, 0), 2);
     }
@@ -353,6 +357,12 @@ public final class EdgesSearchTest {
         CHECKS.due("26: none and none alone", x.rests(0, 1), 1);
         CHECKS.due("27: none of none", x.rest(0, 1, 0), 0);
         CHECKS.due("27: no second", x.rest(0, 1, 1), -2);
+        x = Checks.court("fact f;fact g;person a 9 0 0;person b 9 0 0;knows a f;knows a g;ask p plain f none none;ask q plain f none g;");
+        // by p or q b learns f, and makes a let g slip then: a had better ask none
+        CHECKS.due("26: none is better than any", x.rests(0, 1), 3);
+        for (int k = 0; k < 3; k++) {
+            CHECKS.due("27: none, and what can't be asked then", x.rest(0, 1, k), 200 + k);
+        }
         x = Checks.court("fact f;person a 9 9 0;person b 9 9 0;knows a f;ask p plain f none none;ask q plain none none f;");
         // by p b would learn f: b's gain, not a's; by q b makes a let it slip, behind p it is no gain to b
         int[] due = {0, 1, 2, 101, 201};

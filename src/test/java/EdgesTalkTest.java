@@ -70,6 +70,10 @@ public final class EdgesTalkTest {
         x = Checks.court("fact f;fact g;person a 0 0 0;person b 9 0 0;knows b f;knows b g;ask q plain f none g;ask p plain none none f;talk a b q;talk a b p;law hear 0;");
         CHECKS.due("29: each once: q can't be asked yet", x.behind(2, 0), 1);
         CHECKS.due("28: each once", x.slipped(1), 1);
+        x = Checks.court("fact f;fact g;person a 9 0 0;person b 9 0 0;person c 9 0 0;knows b f;knows c g;ask p plain f none g;talk c b p;talk b c p;");
+        CHECKS.due("29: c can't ask it", x.behind(1, 0), 0);
+        CHECKS.due("29: b can, the asked one hears", x.behind(2, 2), 3);
+        CHECKS.due("28: c let slip, by b", x.slipped(2) * 10 + x.slipped(1), 10);
         x = Checks.court("fact f;person a 0 0 0;knows a f;");
         CHECKS.due("29: no TALK", x.behind(0, 0), 1);
         CHECKS.due("29: one of no TALK", x.behind(1, 0), -1);
@@ -332,6 +336,13 @@ public final class EdgesTalkTest {
                 + "law slip 50*kind+50*(lost>1);");
         x.note(2, 0, 1, false);
         CHECKS.due("33: each of the TALK is asked once", x.knew(0), 5);
+        x = Checks.court("fact f;fact g;person a 0 0 0;person b 0 0 0;knows b f;ask p plain none none f;talk a b p;law slip 100*(heard=1);");
+        x.note(1, 0, 0, true);
+        CHECKS.due("33: none more is nothing heard", x.knew(1), 5);
+        x = Checks.court("fact f;fact g;person a 0 0 0;person b 9 0 0;knows b f;knows b g;ask p plain none none f;ask q plain none none g;talk a b p;talk a b q;");
+        x.note(1, 0, 1, false);
+        x.note(2, 0, 1, true);
+        CHECKS.due("33: behind one not yet, behind two", x.knew(0), 5);
     }
 
     private static long next(long number) {

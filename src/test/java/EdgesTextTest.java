@@ -620,6 +620,8 @@ public final class EdgesTextTest {
         CHECKS.dueFault("law slip 1 lips;", 1, 11);
         CHECKS.dueFault("law slip lips wit;", 1, 14);
         CHECKS.dueFault("law slip none;", 1, 9);
+        CHECKS.dueFault("fact x;person x 0 0 0;law slip x;", 1, 31);
+        CHECKS.dueFault("law slip 1 + abcdef;", 1, 13);
         CHECKS.dueFault("law lips 1;", 1, 4);
         CHECKS.dueFault("law 1;", 1, 4);
         CHECKS.dueFault("law;", 1, 3);

@@ -67,6 +67,7 @@ public final class FaceTest {
             CHECKS.due(c + " has some twenty fields", fields <= 20, true);
             for (Method m : c.getDeclaredMethods()) {
                 CHECKS.due(m + " has at most seven parameters", m.getParameterCount() <= 7, true);
+                CHECKS.due(m + " bears a public one's name", FACE.matches(".*\\b" + m.getName() + "\\b.*"), false);
             }
         }
     }
