@@ -231,6 +231,9 @@ public final class EdgesAllTest {
         CHECKS.due("16: c hears: a second round", x.never(1, 1), 0);
         CHECKS.due("16: c doesn't hear: none", x.away(1, 1), 1);
         CHECKS.due("35: c doesn't hear: none", x.tried(2, 0), 3);
+        x = Checks.court("fact f;fact g;person a 0 0 0;person b 0 0 0;person c 0 0 0;" + clock);
+        CHECKS.due("35: c, the last one, doesn't hear: none", x.tried(2, 2), 3);
+        CHECKS.due("35: with c a second round", x.tried(4, 0), 6);
         x = Checks.court("fact f;fact g;fact h;person c 0 0 0;person a 0 0 0;person b 0 0 0;knows a h;knows b h;ask s plain h none none;" + clock);
         x.tell(0, 0);
         CHECKS.due("16: c hears what is supposed: a second round", x.never(1, 1), 0);
@@ -260,6 +263,10 @@ public final class EdgesAllTest {
         x = Checks.court("fact f;fact g;person a 0 0 0;person b 9 0 0;knows b f;ask p plain g none f;");
         CHECKS.due("18: a is told", x.hint(0, 0, 0), 0);
         CHECKS.due("18: g", x.hint(0, 0, 1), 1);
+        x.tell(0, 1);
+        x.keep();
+        x.undo();
+        CHECKS.due("18: what a KNOWS in the IMAGE doesn't matter", x.hint(0, 0, 0) * 10 + x.hint(0, 0, 1), 1);
         x.tell(1, 1);
         CHECKS.due("18: b supposes it of a: it isn't needed", x.hint(0, 1, 0), -2);
         x = Checks.court("fact f;fact g;person a 0 0 0;person b 9 0 0;person c 0 0 1;knows b f;knows c g;ask p plain g none f;");

@@ -225,6 +225,11 @@ public final class EdgesAskingTest {
         dueValue("0-9999", -9999);
         dueValue("((((((((5))))))))", 5);
         dueValue("5000", 5000);
+        dueValue("not ".repeat(62) + "7", 1);
+        dueValue("not ".repeat(63) + "7", 0);
+        dueValue("((((((((" + "not ".repeat(63) + "7))))))))", 0);
+        dueValue("not (".repeat(8) + "not ".repeat(55) + "0" + ")".repeat(8), 1);
+        dueValue("1+(2*(1+(2*(1+(2*(1+(2*(3+4))))))))", 127);
         dueValue("0-5", -5);
     }
 

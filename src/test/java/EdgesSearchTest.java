@@ -237,7 +237,10 @@ public final class EdgesSearchTest {
         CHECKS.due("24: by q b hears g, and keeps f", x.care(1), 1);
         x = Checks.court("fact f;person a 0 0 2;person b 9 0 2;person c 0 0 0;knows b f;ask p plain none none f;");
         CHECKS.due("24: in ROOM 2", x.care(1), 1);
+        x.tried(1, 0);
+        CHECKS.due("24: in ROOM 2, though ROOM 0 was tried", x.care(1), 1);
         x.tell(0, 0);
+        x.tried(1, 0);
         CHECKS.due("24: in ROOM 2 all KNOW it", x.care(1), 0);
         x = Checks.court("fact f;fact g;fact h;person a 0 0 0;person b 9 0 0;knows a f;knows b f;knows b h;ask p plain none none f;ask q plain none none g;ask r plain none none h;");
         CHECKS.due("24: of f, g, h the last one alone is news that b KNOWS", x.care(1), 4);
@@ -321,6 +324,8 @@ public final class EdgesSearchTest {
         x = Checks.court("fact f;fact g;person a 0 0 0;person b 0 0 0;knows a f;knows a g;ask p plain f none none;ask q plain g none none;");
         CHECKS.due("25: the asked one hears what both suppose", x.best(0, 2, 0), 4);
         CHECKS.due("25: p, then q", x.best(0, 2, 1) * 100 + x.best(0, 2, 2), 1011);
+        x = Checks.court("fact f;fact g;person a 0 0 0;person b 0 0 0;knows b f;knows b g;ask p plain f none none;ask q plain g none none;");
+        CHECKS.due("25: b asks: a hears what both suppose", x.best(1, 2, 0), 4);
         x = Checks.court("fact f;fact g;person a 9 0 0;person b 9 0 0;person c 9 0 1;knows a f;knows c g;ask p plain none none f;ask q plain none none g;law hear 0;");
         CHECKS.due("25: by the first QUESTION of c g", Checks.court("fact f;fact g;person a 0 0 0;person b 9 0 0;person c 9 0 0;knows c g;knows c f;ask n idle none none none;"
                 + "ask p plain g none f;ask q plain none none g;law hear 0;").best(0, 2, 1), 22);
