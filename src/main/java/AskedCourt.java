@@ -533,7 +533,7 @@ public final class AskedCourt {
         if (what == 0) {
             return search.most;
         }
-        return what > n ? BY_NONE : search.codes[what - 1] % 100;
+        return what > n ? BY_NONE : search.codes[what - 1];
     }
 
     public int rests(int one, int other) {
@@ -1774,7 +1774,7 @@ public final class AskedCourt {
 
         private final State first = new State();
         private final State second = new State();
-        /** The QUESTIONS found: a hundred times who asks, ten times whom, the QUESTION. */
+        /** The QUESTIONS found: a hundred times who asks (of a WAY alone), ten times whom, the QUESTION. */
         private final int[] codes = new int[2];
         private int length;
         private int most;
